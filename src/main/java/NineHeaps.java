@@ -208,7 +208,8 @@ public final class NineHeaps {
         if (noSeconds(seconds) || what < 0 || what > 4) {
             return BAD;
         }
-        goPlain(seconds);
+        layPlain();
+        going.pass(seconds);
         switch (what) {
             case 0: return going.programmes;
             case 1: return going.wrong;
@@ -226,7 +227,8 @@ public final class NineHeaps {
         if (noSeconds(seconds) || what < 0 || what > 4) {
             return NOT_SO;
         }
-        goPlain(seconds);
+        layPlain();
+        going.pass(seconds);
         switch (what) {
             case 0: return one.at;
             case 1: return one.doing;
@@ -243,7 +245,8 @@ public final class NineHeaps {
         if (noSeconds(seconds) || what < 0 || what > 1) {
             return NOT_SO;
         }
-        goPlain(seconds);
+        layPlain();
+        going.pass(seconds);
         return what == 0 ? going.heapAt(h).high : going.heapAt(h).ranOut;
     }
 
@@ -251,7 +254,8 @@ public final class NineHeaps {
         if (noSeconds(seconds)) {
             return BAD;
         }
-        goPlain(seconds);
+        layPlain();
+        going.pass(seconds);
         for (int h = 0; h < HEAPS; h++) {
             high[h] = going.heapAt(h).high;
         }
@@ -262,7 +266,8 @@ public final class NineHeaps {
         if (k < 0 || k >= MOST_OFF) {
             return BAD;
         }
-        goPlain(ALL_SECONDS);
+        layPlain();
+        going.pass(ALL_SECONDS);
         return going.offAt(k);
     }
 
@@ -270,7 +275,8 @@ public final class NineHeaps {
         if (noSeconds(seconds) || what < 0 || what > 1) {
             return BAD;
         }
-        goPlain(seconds);
+        layPlain();
+        going.pass(seconds);
         if (going.offCount == 0) {
             return 0;
         }
@@ -340,10 +346,11 @@ public final class NineHeaps {
         int sitting = NONE;
         int most = NONE;
         for (int w = 0; w < walkerCount; w++) {
-            int programmes = programmesWithout(w);
-            if (programmes > most) {
+            layWithout(w);
+            going.pass(ALL_SECONDS);
+            if (going.programmes > most) {
                 sitting = w;
-                most = programmes;
+                most = going.programmes;
             }
         }
         return what == 0 ? sitting : most;
@@ -353,7 +360,12 @@ public final class NineHeaps {
         if (walkerOf(w) == null) {
             return NOT_WORTH;
         }
-        return programmesWithout(NONE) - programmesWithout(w);
+        layPlain();
+        going.pass(ALL_SECONDS);
+        int withOne = going.programmes;
+        layWithout(w);
+        going.pass(ALL_SECONDS);
+        return withOne - going.programmes;
     }
 
     public int more(int h) {
@@ -372,12 +384,6 @@ public final class NineHeaps {
             }
         }
         return NONE;
-    }
-
-    private int programmesWithout(int w) {
-        layWithout(w);
-        going.pass(ALL_SECONDS);
-        return going.programmes;
     }
 
     private void layByOrder() {
@@ -540,7 +546,8 @@ public final class NineHeaps {
         if (refusal != 0) {
             return refusal;
         }
-        goPlain(seconds);
+        layPlain();
+        going.pass(seconds);
         return firstOtherwise(s);
     }
 
@@ -629,7 +636,8 @@ public final class NineHeaps {
         if (sheet == null || noSeconds(seconds)) {
             return BAD;
         }
-        goPlain(seconds);
+        layPlain();
+        going.pass(seconds);
         sheet.become(SHORTS, HEAPS);
         for (int h = 0; h < HEAPS; h++) {
             sheet.put(h, going.heapAt(h).high);
@@ -880,11 +888,6 @@ public final class NineHeaps {
         return s >= 0 && s < SHEETS ? sheets[s] : null;
     }
 
-    private void goPlain(int seconds) {
-        layPlain();
-        going.pass(seconds);
-    }
-
     private void layPlain() {
         layWithout(NONE);
     }
@@ -989,7 +992,7 @@ public final class NineHeaps {
         }
 
         int stepFor(int said) {
-            return super.stepFor(said) - more / 3;
+            return said - more / 3;
         }
     }
 
@@ -1007,7 +1010,7 @@ public final class NineHeaps {
         }
 
         int takesFor(int said, int soFar) {
-            return super.takesFor(said, soFar) + more / 2;
+            return said + more / 2;
         }
     }
 
@@ -1051,7 +1054,7 @@ public final class NineHeaps {
         }
 
         int stepFor(int said) {
-            return super.stepFor(said) * 2;
+            return said * 2;
         }
     }
 
@@ -1069,7 +1072,7 @@ public final class NineHeaps {
         }
 
         int takesFor(int said, int soFar) {
-            return soFar >= more ? super.takesFor(said, soFar) / 2 : super.takesFor(said, soFar);
+            return soFar >= more ? said / 2 : said;
         }
     }
 
@@ -1194,38 +1197,33 @@ public final class NineHeaps {
             for (int n = 0; n < seconds; n++) {
                 for (int i = 0; i < goerCount && i < WALKERS; i++) {
                     Walker one = goers[i];
-                    if (one != null) {
-                        move(one);
+                    if (one != null && one.left > 1) {
+                        one.left--;
+                    } else if (one != null) {
+                        moveOn(one);
                     }
                 }
                 second++;
             }
         }
 
-        private void move(Walker one) {
-            if (one.doing != Walker.WAITS) {
-                one.left--;
-                if (one.left > 0) {
-                    return;
-                }
-                if (one.doing == Walker.IS_TAKING) {
-                    endTaking(one);
-                    return;
-                }
-                one.doing = Walker.WAITS;
-            }
+        /** What one does comes to its end in this SECOND, or one waits. */
+        private void moveOn(Walker one) {
             Heap heap = heapAt(one.at);
-            if (heap.takers > 0 && one.waits()) {
+            one.left = 0;
+            if (one.doing == Walker.IS_TAKING) {
+                endTaking(one, heap);
+            } else if (heap.takers > 0 && one.waits()) {
+                one.doing = Walker.WAITS;
                 one.waited++;
-                return;
+            } else {
+                one.doing = Walker.IS_TAKING;
+                one.left = takesOf(one, heap, one.done);
+                heap.takers++;
             }
-            heap.takers++;
-            one.doing = Walker.IS_TAKING;
-            one.left = takesOf(one, heap, one.done);
         }
 
-        private void endTaking(Walker one) {
-            Heap heap = heapAt(one.at);
+        private void endTaking(Walker one, Heap heap) {
             heap.takers--;
             int became = heap.lift(second);
             one.blotted |= became == Heap.STUCK;
@@ -1285,16 +1283,28 @@ public final class NineHeaps {
         private final int[] starts;
         private final int[] stack = new int[STACK];
         private final int[] names = new int[NAMES];
+        // What a part says that is but a number, as most are, and asked for in each second; else NONE.
+        private final int[] lone = new int[PARTS];
 
         /** starts: where each part starts, and where the last one ends. */
         Law(int[] words, int[] starts) {
             this.words = words.clone();
             this.starts = starts.clone();
+            for (int part = 0; part < PARTS; part++) {
+                lone[part] = NONE;
+                if (part + 1 < starts.length && starts[part + 1] == starts[part] + 1) {
+                    int at = starts[part];
+                    lone[part] = at >= 0 && at < words.length && words[at] >= 0 ? bounded(part, words[at]) : NONE;
+                }
+            }
         }
 
         int says(int part, Walker one, int heap, int left, int done, int many) {
             if (part < 0 || part >= PARTS || part + 1 >= starts.length || one == null) {
                 return 0;
+            }
+            if (lone[part] != NONE) {
+                return lone[part];
             }
             names[0] = heap;
             names[1] = one.number;
@@ -1520,8 +1530,10 @@ public final class NineHeaps {
             for (int n = 0; n < TAPE && isLetter(byteAt(place)); n++) {
                 place++;
             }
-            token = keySpelled();
-            int name = nameSpelled();
+            token = spells("takes") ? TAKES : spells("steps") ? STEPS : spells("minds") ? MINDS
+                    : spells("or") ? OR : spells("and") ? AND : spells("not") ? NOT : BROKEN;
+            int name = spells("heap") ? 0 : spells("walker") ? 1 : spells("more") ? 2
+                    : spells("left") ? 3 : spells("done") ? 4 : spells("many") ? 5 : NONE;
             if (name != NONE) {
                 token = NAME;
                 tokenWord = -1 - name;
@@ -1536,16 +1548,6 @@ public final class NineHeaps {
             }
             token = place - tokenAt > MOST_DIGITS ? BROKEN : NUMBER;
             tokenWord = value;
-        }
-
-        private int keySpelled() {
-            return spells("takes") ? TAKES : spells("steps") ? STEPS : spells("minds") ? MINDS
-                    : spells("or") ? OR : spells("and") ? AND : spells("not") ? NOT : BROKEN;
-        }
-
-        private int nameSpelled() {
-            return spells("heap") ? 0 : spells("walker") ? 1 : spells("more") ? 2
-                    : spells("left") ? 3 : spells("done") ? 4 : spells("many") ? 5 : NONE;
         }
 
         /** Whether the bytes from the TOKEN's first one up to the place are those letters. */

@@ -168,12 +168,14 @@ public final class HostTest {
         due("far out", x.walkersBy(0, 0, Integer.MAX_VALUE, 5), -12);
         due("far below", x.walkersBy(0, 0, Integer.MIN_VALUE, 5), -12);
         due("nobody came", x.count(0), 0);
+        x.sheet(3, 2, 3);
+        due("by ints", x.walkersBy(3, 2, 0, 1), 1);
         due("both", x.walkersBy(0, 0, 0, 2), 2);
         due("a byte below 0 is no kind", x.cell(0, 0, 255), 1);
         due("left out", x.walkersBy(0, 0, 0, 2), 1);
         x.cell(0, 0, 256 + 3);
         due("a byte's lowest bits", x.walkersBy(0, 0, 0, 1), 1);
-        due("told(3, 0)", x.told(3, 0), 3);
+        due("told(4, 0)", x.told(4, 0), 3);
     }
 
     private static void takenFor() {

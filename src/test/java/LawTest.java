@@ -234,6 +234,17 @@ public final class LawTest {
         faultInE("1 \u00ff", 2);
         faultInE("(1 < 2) < 3 < 4", 12);
         faultInE("1;steps((1)", 11);
+        String[] nearly = {"end", "er", "got", "orz", "andz", "nots"};
+        for (String word : nearly) {
+            faultInE("1 " + word + " 1", 2);
+        }
+        String[] nearNames = {"leap", "talker", "core", "jeft", "gone", "zany", "hea", "lefts", "walkers"};
+        for (String word : nearNames) {
+            faultInE("1 + " + word, 4);
+        }
+        fault("bakes 1;", 0);
+        fault("takes 1;stops 1;", 8);
+        fault("takes 1;steps 1;finds 1;", 16);
     }
 
     private static void textNests() {

@@ -147,6 +147,8 @@ public final class OrdersTest {
         due("just missed: 23 are lifted", x.more(0), 1);
         x.set(0, 0, 23);
         due("just enough", x.more(0), 0);
+        x.set(0, 1, 22);
+        due("missed in the last second", x.more(1), 1);
         due("nothing changed", x.heap(3, 0), 0);
         x.set(1, 3, 1);
         due("each lifts two", x.more(3), 43);
@@ -161,6 +163,12 @@ public final class OrdersTest {
         due("200 are too few", y.more(0), -1);
         y.set(1, 0, 0);
         due("167 are enough", y.more(0), 117);
+        y.set(1, 0, 5);
+        due("200 are just enough for 167 and 33 that stick", y.more(0), 150);
+        y.set(0, 0, 0);
+        due("200 are just enough", y.more(0), 200);
+        y.set(1, 0, 4);
+        due("200 are too few", y.more(0), -1);
         y.set(0, 0, 200);
         y.set(1, 0, 1);
         due("no more have room", y.more(0), -1);
@@ -211,6 +219,16 @@ public final class OrdersTest {
         due("five: stretch(0)", y.stretch(0), 6);
         due("five: stretch(1)", y.stretch(1), 12222);
         due("five: slowest(), of like ones the first", y.slowest(), 1);
+        // The slowest one is so by the heaps that are its own.
+        NineHeaps u = new NineHeaps();
+        for (int w = 0; w < 3; w++) {
+            u.walker(0, 0, 0);
+        }
+        law(u, "takes 1 + 9 * (heap < 2) + 8 * (heap = 8) + 20 * done ; steps 1 + done ; minds 1 ;");
+        due("slowest: stretch(0)", u.stretch(0), 17);
+        due("slowest: stretch(1)", u.stretch(1), 144);
+        due("slowest: stretch(2)", u.stretch(2), 11 + 17 + 16 + 19 * 17);
+        due("slowest()", u.slowest(), 1);
         // DONE 0: TWO halves only if MORE is 0.
         NineHeaps z = new NineHeaps();
         z.walker(5, 0, 0);

@@ -127,6 +127,9 @@ public final class SecondsTest {
         x.set(2, 0, 23);
         due("run(600, 4)", x.run(600, 4), -1);
         due("nothing was truly done", x.heap(0, 0), 50);
+        due("lifts in second 599, the last of all", x.height(1, 599, 0) - x.height(1, 600, 0), 0);
+        x.begin(0, 0);
+        due("lifts in second 599, the last of all", x.height(1, 599, 0) - x.height(1, 600, 0), 1);
     }
 
     private static void twoAtOneHeap() {
@@ -259,6 +262,12 @@ public final class SecondsTest {
         due("behind 4", x.run(4, 3), 2 * 13 + 4 * 21);
         due("behind 29", x.run(29, 3), 2 * 14 + 4 * 21);
         due("behind 31", x.run(31, 3), 2 * 14 + 4 * 22);
+        NineHeaps y = new NineHeaps();
+        y.walker(0, 0, 0);
+        y.walker(2, 8, 1);
+        law(y, "takes 2 ; steps 1 ; minds 5 + walker ;");
+        due("the first waits, in the second in which the other lifts, too", y.run(7, 3), 4 * 5);
+        due("the first takes", y.one(0, 8, 1), 2);
     }
 
     private static void runRefuses() {

@@ -272,6 +272,8 @@ public final class ToldTest {
         due("seed 100000", x.odds(100000, 1, 600, 0), NineHeaps.NO);
         due("part -1", x.odds(0, 1, 600, -1), NineHeaps.NO);
         due("part 2", x.odds(0, 1, 600, 2), NineHeaps.NO);
+        due("seed 0, seeds 1", x.odds(0, 1, 600, 1) > 0 ? 1 : 0, 1);
+        due("seconds 0", x.odds(0, 1, 0, 1), NineHeaps.NO);
         due("they may pass 99999", x.odds(99999, 10, 600, 1) > 0 ? 1 : 0, 1);
         NineHeaps y = new NineHeaps();
         y.walker(0, 0, 0);
