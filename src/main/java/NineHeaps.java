@@ -1226,8 +1226,11 @@ public final class NineHeaps {
         private void endTaking(Walker one, Heap heap) {
             heap.takers--;
             int became = heap.lift(second);
-            one.blotted |= became == Heap.STUCK;
-            one.lacks |= became == Heap.LACKED;
+            if (became == Heap.STUCK) {
+                one.blotted = true;
+            } else if (became == Heap.LACKED) {
+                one.lacks = true;
+            }
             one.has++;
             if (one.has == HEAPS) {
                 endProgramme(one);
