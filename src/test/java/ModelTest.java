@@ -117,7 +117,11 @@ public final class ModelTest {
             case "judge": return new Call(name, s, seconds);
             case "when": return new Call(name, s, near(lot, 0, 1));
             case "sticks": return new Call(name, s, seconds, h);
-            case "kinds": return new Call(name, s, seconds, 100 * w + near(lot, 0, 1));
+            case "kinds": {
+                int walkerSort = 100 * w + near(lot, 0, 1);
+                // The document doesn't tell of which WALKER -99 .. -1 are.
+                return new Call(name, s, seconds, walkerSort < 0 && walkerSort > -100 ? -100 : walkerSort);
+            }
             case "laws": return new Call(name, s, seconds);
             case "film": return new Call(name, s, seconds);
             case "drawn": return new Call(name, lot.nextInt(3) == 0 ? between(lot, 99998, 100000) : near(lot, 0, 99999), near(lot, 0, 2));
