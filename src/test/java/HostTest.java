@@ -210,9 +210,7 @@ public final class HostTest {
         due("nothing lies there", y.taken(10, 6), -11);
     }
 
-    /** Every call answers, whatever numbers come, in an object that is as full as can be. */
-    private static void whateverIsHandedIn() {
-        int[] v = {Integer.MIN_VALUE, -1001, -100, -1, 0, 1, 5, 9, 41, 600, 601, 1000, Integer.MAX_VALUE};
+    private static NineHeaps fullObject() {
         NineHeaps x = new NineHeaps();
         for (int w = 0; w < 5; w++) {
             x.walker(w, 9, w);
@@ -220,10 +218,18 @@ public final class HostTest {
         for (int s = 0; s < 3; s++) {
             x.sheet(s, s, 9);
         }
+        return x;
+    }
+
+    /** Every call answers, whatever numbers come, in an object that is as full as can be. */
+    private static void whateverIsHandedIn() {
+        int[] v = {Integer.MIN_VALUE, -1001, -100, -1, 0, 1, 5, 9, 41, 600, 601, 1000, Integer.MAX_VALUE};
         int sum = 0;
         for (int a : v) {
-            sum += x.count(a) + x.force(a) + x.go(a) + x.off(a) + x.best(a) + x.sit(a) + x.worth(a) + x.more(a) + x.stretch(a);
+            NineHeaps y = fullObject();
+            sum += y.count(a) + y.force(a) + y.go(a) + y.off(a) + y.best(a) + y.sit(a) + y.worth(a) + y.more(a) + y.stretch(a);
             for (int b : v) {
+                NineHeaps x = fullObject();
                 sum += x.heap(a, b) + x.begin(a, b) + x.told(a, b) + x.run(a, b) + x.find(a, b) + x.start(a, b);
                 sum += x.judge(a, b) + x.when(a, b) + x.laws(a, b) + x.film(a, b) + x.drawn(a, b) + x.taken(a, b);
                 for (int c : v) {
